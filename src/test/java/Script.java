@@ -1,0 +1,80 @@
+import java.lang.reflect.InvocationTargetException;
+import java.lang.reflect.Method;
+import java.util.Arrays;
+
+/** Runs calls that are written as the document writes them: "sink(0, 0) = 0; tops() = 1". */
+final class Script {
+    private static int wrong = 0;
+
+    private Script() {
+    }
+
+    /** Makes a new object and compares each call's answer with the one behind "=". */
+    static void check(String name, String calls) {
+        ClockWires object = new ClockWires();
+        for (String step : calls.split(";")) {
+            String line = step.strip().replaceAll("\\s+", " ");
+            if (!line.isEmpty()) {
+                String[] sides = line.split("=");
+                due(name + ": " + sides[0].strip(), call(object, sides[0].strip()), Long.parseLong(sides[1].strip()));
+            }
+        }
+    }
+
+    static void due(String what, long got, long want) {
+        if (got != want) {
+            wrong++;
+            System.out.println(what + " answered " + got + ", due is " + want);
+        }
+    }
+
+    /** The calls that type a text into a new or cleared object. */
+    static String typed(String text) {
+        StringBuilder calls = new StringBuilder();
+        for (int i = 0; i < text.length(); i++) {
+            calls.append("type(").append((int) text.charAt(i)).append(") = ").append(i + 1).append("; ");
+        }
+        return calls.toString();
+    }
+
+    /** The calls that show the whole text of a node. */
+    static String shows(int n, String text) {
+        StringBuilder calls = new StringBuilder();
+        for (int i = 0; i < text.length(); i++) {
+            calls.append("shown(").append(n).append(", ").append(i).append(") = ")
+                .append((int) text.charAt(i)).append("; ");
+        }
+        return calls.append("shown(").append(n).append(", ").append(text.length()).append(") = -1; ").toString();
+    }
+
+    private static long call(Object object, String text) {
+        int open = text.indexOf('(');
+        String inside = text.substring(open + 1, text.length() - 1).strip();
+        int[] arguments = inside.isEmpty()
+            ? new int[0]
+            : Arrays.stream(inside.split(",")).mapToInt(part -> Integer.parseInt(part.strip())).toArray();
+        return invoke(object, text.substring(0, open), arguments);
+    }
+
+    static long invoke(Object object, String name, int... arguments) {
+        Class<?>[] types = new Class<?>[arguments.length];
+        Arrays.fill(types, int.class);
+        try {
+            Method method = object.getClass().getDeclaredMethod(name, types);
+            Object[] boxed = Arrays.stream(arguments).boxed().toArray();
+            return ((Number) method.invoke(object, boxed)).longValue();
+        } catch (InvocationTargetException thrown) {
+            throw new IllegalStateException(name + Arrays.toString(arguments) + " threw", thrown.getCause());
+        } catch (ReflectiveOperationException missing) {
+            throw new IllegalStateException(missing);
+        }
+    }
+
+    /** Ends the test with exit code 1 if an answer was wrong. */
+    static void finish() {
+        System.out.println(wrong == 0 ? "all answers are as due" : wrong + " answers are not as due");
+        if (wrong != 0) {
+            System.exit(1);
+        }
+    }
+}
