@@ -1076,12 +1076,12 @@ public final class ClockWires {
             trial.copyFrom(tree);
             trial.removeJoints();
             leastTrees = 0;
-            tryTrees(1);
+            growTrees(1);
             leastKnown = true;
         }
 
         // Grafting each further sink at each node of the tree so far makes every tree exactly once.
-        private void tryTrees(int k) {
+        private void growTrees(int k) {
             if (k >= trial.sinkCount || k >= MOST_SEARCHED_SINKS) {
                 wires.measure(trial);
                 countTree(wires.totalCost);
@@ -1090,7 +1090,7 @@ public final class ClockWires {
             for (int n = 0; n < NODES; n++) {
                 if (n < k || trial.isJoint(n)) {
                     trial.graft(k, n);
-                    tryTrees(k + 1);
+                    growTrees(k + 1);
                     trial.cut(k);
                 }
             }

@@ -1,8 +1,12 @@
 import java.lang.reflect.InvocationTargetException;
 import java.lang.reflect.Method;
+import java.math.BigDecimal;
 import java.util.Arrays;
 
-/** Runs calls that are written as the document writes them: "sink(0, 0) = 0; tops() = 1". */
+/**
+ * Runs calls that are written as the document writes them: "sink(0, 0) = 0; tops() = 1".
+ * An answer may also be written in whole units: 3.5u is 3.5 * 65536, and 2uu is 2 * 65536 * 65536.
+ */
 final class Script {
     private static int wrong = 0;
 
@@ -16,9 +20,17 @@ final class Script {
             String line = step.strip().replaceAll("\\s+", " ");
             if (!line.isEmpty()) {
                 String[] sides = line.split("=");
-                due(name + ": " + sides[0].strip(), call(object, sides[0].strip()), Long.parseLong(sides[1].strip()));
+                due(name + ": " + sides[0].strip(), call(object, sides[0].strip()), number(sides[1].strip()));
             }
         }
+    }
+
+    private static long number(String text) {
+        BigDecimal value = new BigDecimal(text.replace("u", ""));
+        for (int i = text.indexOf('u'); i >= 0 && i < text.length(); i++) {
+            value = value.multiply(BigDecimal.valueOf(65536));
+        }
+        return value.longValueExact();
     }
 
     static void due(String what, long got, long want) {
