@@ -17,6 +17,8 @@ public final class JointsTest {
         betters();
         nodes();
         skewedNodes();
+        intervals();
+        wideRegions();
         would();
         nearestAndTops();
         least();
@@ -60,6 +62,7 @@ public final class JointsTest {
             sink(0, 0) = 0; sink(1, 0) = 1; sink(9, 0) = 2; sets(1, 0, 50) = 0; pairs() = 2; node(8, 0) = 0;
             node(8, 1) = 2
             """);
+        Script.check("promise 11, the places follow", LINE + "total(1) = -1; pairs() = 3; total(1) = 3u; arrival(3) = 6u");
         Script.check("promise 11, no sink", "pairs() = -3; told(1) = 1; told(9) = 0; sink(5, 5) = 0; pairs() = 0; told(9) = 2");
     }
 
@@ -180,6 +183,46 @@ public final class JointsTest {
             """);
     }
 
+    /** With the skew 10, joint 8 has early 10 and late 20 at the point U = 6, V = 2. */
+    private static void intervals() {
+        String late = TWO + "sets(1, 0, 20) = 0; skew(10) = 0; joins(0, 1) = 8; ";
+        Script.check("promise 17, an interval and an early sink", late + """
+            sink(10, 0) = 2; joins(8, 2) = 9; node(8, 9) = 0; node(2, 9) = 10u; node(9, 7) = 10u; node(9, 8) = 20u;
+            cuts(2) = 9; joins(2, 8) = 9; node(8, 9) = 0; node(2, 9) = 10u; node(9, 7) = 10u; node(9, 8) = 20u
+            """);
+        Script.check("promise 17, an interval and a late sink", late + """
+            sink(10, 0) = 2; sets(2, 0, 60) = 0; joins(2, 8) = 9; node(8, 9) = 40u; node(2, 9) = 0; node(9, 7) = 50u;
+            node(9, 8) = 60u; cuts(2) = 9; joins(8, 2) = 9; node(8, 9) = 40u; node(2, 9) = 0; node(9, 7) = 50u;
+            node(9, 8) = 60u
+            """);
+        Script.check("promise 17, an interval and a far sink", late + """
+            sink(40, 0) = 2; joins(8, 2) = 9; node(8, 9) = 11.5u; node(2, 9) = 26.5u; node(9, 7) = 21.5u;
+            node(9, 8) = 31.5u; cuts(2) = 9; joins(2, 8) = 9; node(8, 9) = 11.5u; node(2, 9) = 26.5u;
+            node(9, 7) = 21.5u; node(9, 8) = 31.5u
+            """);
+    }
+
+    /** Joint 8 has U from 41 to 45 and V = 1, joint 9 has U from 43 to 47 and V = 21; both have the time 3. */
+    private static void wideRegions() {
+        String wide = """
+            sink(20, 22) = 0; sink(24, 20) = 1; joins(0, 1) = 8; sink(31, 13) = 2; sink(35, 11) = 3; joins(2, 3) = 9;
+            """;
+        Script.check("promise 17, wide regions", wide + """
+            node(8, 3) = 41u; node(8, 4) = 45u; node(8, 5) = 1u; node(8, 6) = 1u; node(9, 3) = 43u; node(9, 4) = 47u;
+            joins(8, 9) = 10; node(8, 9) = 10u; node(9, 9) = 10u; node(10, 3) = 33u; node(10, 4) = 55u;
+            node(10, 5) = 11u; node(10, 6) = 11u; node(10, 7) = 13u; node(10, 10) = 32u
+            """);
+        Script.check("promise 17, wide regions at different times", wide + """
+            sets(0, 0, 2) = 0; sets(1, 0, 2) = 0; joins(8, 9) = 10; node(8, 9) = 9u; node(9, 9) = 11u;
+            node(10, 3) = 32u; node(10, 4) = 54u; node(10, 5) = 10u; node(10, 6) = 10u; cuts(8) = 10; joins(9, 8) = 10;
+            node(9, 9) = 11u; node(10, 3) = 32u; node(10, 4) = 54u; node(10, 5) = 10u
+            """);
+        Script.check("promise 18, gaps of wide regions", wide + """
+            sink(2, 2) = 4; would(8, 4, 0) = 37u; would(4, 8, 0) = 37u; moves(4, 40, 40) = 76u; would(8, 4, 0) = 35u;
+            would(4, 8, 0) = 35u; moves(4, 22, 22) = 36u; would(8, 4, 0) = 3u; would(8, 4, 1) = 2u
+            """);
+    }
+
     private static void would() {
         Script.check("promise 18", TWO + """
             would(0, 1, 0) = 6u; would(0, 1, 1) = 0; would(0, 1, 2) = 3u; would(0, 1, 3) = 3u;
@@ -202,6 +245,10 @@ public final class JointsTest {
             tops() = 2; sink(0, 0) = 2; sink(2, 0) = 3; nearest() = 1; moves(0, 7, 0) = 1u; nearest() = 19;
             joins(1, 3) = 8; tops() = 3; nearest() = 40; sets(2, 0, 50) = 0; nearest() = 8; joins(0, 8) = 9; tops() = 2;
             nearest() = 41; joins(9, 2) = 10; nearest() = -1; tops() = 1; told(0) = 0; told(1) = 0; told(9) = 8
+            """);
+        Script.check("promise 19, the skew spares a detour", """
+            sink(0, 0) = 0; sink(1, 0) = 1; sink(9, 0) = 2; sets(1, 0, 50) = 0; nearest() = 2; skew(45) = 0;
+            nearest() = 1; would(0, 1, 0) = 5u
             """);
         Script.check("promise 19, the least greater top of several", """
             sink(5, 5) = 0; sink(20, 20) = 1; sink(5, 7) = 2; sink(5, 3) = 3; nearest() = 2

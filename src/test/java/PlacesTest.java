@@ -4,6 +4,7 @@ public final class PlacesTest {
 
     public static void main(String[] args) {
         places();
+        placesAlongU();
         loops();
         deepPlaces();
         arrivals();
@@ -26,6 +27,16 @@ public final class PlacesTest {
         Script.check("promise 22, no sink and one sink", """
             place(0, 0) = -2; sink(0, 63) = 0; place(0, 0) = 63u; place(0, 1) = -63u; place(0, 2) = -1; told(0) = 1;
             told(1) = 0
+            """);
+    }
+
+    private static void placesAlongU() {
+        // The region of 8 has U from 1 to 5 and V = 1.
+        Script.check("promise 22, along U", """
+            sink(0, 2) = 0; sink(4, 0) = 1; joins(0, 1) = 8; place(8, 0) = 1u; place(8, 1) = 1u; total(1) = 1u;
+            source(10, 10) = 20u; place(8, 0) = 5u; place(8, 1) = 1u; total(1) = 15u; source(3, 0) = 17u;
+            place(8, 0) = 3u; place(8, 1) = 1u; total(1) = 2u; sink(9, 9) = 2; joins(8, 2) = 9; place(9, 0) = 10u;
+            place(9, 1) = 3u; place(8, 0) = 5u; place(8, 1) = 1u; place(8, 2) = 0; place(2, 2) = 0
             """);
     }
 
