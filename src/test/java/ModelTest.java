@@ -19,10 +19,10 @@ public final class ModelTest {
     private ModelTest(int run) {
         this.run = run;
         seed = run * 7919L + 17;
-        sinkLimit = 1 + draw(8);
+        sinkLimit = 1 + Math.max(draw(8), draw(8));
         // Some runs crowd the sinks, so that ties and overlapping regions come up.
         spread = new int[] {4, 8, 20, 64}[draw(4)];
-        errorRate = new int[] {2, 10, 40}[draw(3)];
+        errorRate = new int[] {0, 3, 30}[draw(3)];
     }
 
     public static void main(String[] args) {
@@ -48,11 +48,14 @@ public final class ModelTest {
     }
 
     private void play() {
+        for (int k = draw(sinkLimit); k > 0; k--) {
+            call("sink", coordinate(), coordinate());
+        }
         while (calls < CALLS) {
             int kind = draw(100);
             if (kind < 45) {
                 change();
-            } else if (kind < 55) {
+            } else if (kind < 48) {
                 write();
             } else {
                 ask();
@@ -76,7 +79,8 @@ public final class ModelTest {
     }
 
     private int node() {
-        return odd(draw(2) == 0 ? draw(sinkLimit) : 8 + draw(Math.max(1, sinkLimit - 1)));
+        int joints = (int) model.told(4);
+        return odd(draw(2) == 0 || joints == 0 ? draw(sinkLimit) : 8 + draw(joints + (draw(10) == 0 ? 1 : 0)));
     }
 
     private int value(int last) {
@@ -101,13 +105,16 @@ public final class ModelTest {
                     call("frees");
                 }
             }
-            case 11 -> call("cuts", node());
+            case 11 -> {
+                call("cuts", node());
+                call("grafts", node(), node());
+            }
             case 12 -> call("grafts", node(), node());
             case 13 -> call("grafts", node(), -1);
             case 14, 15 -> call("exchanges", node(), node());
             case 16 -> call("betters");
             default -> {
-                for (int times = draw(3) == 0 ? 9 : 1; times > 0; times--) {
+                for (int times = draw(20) == 0 ? 9 : 1; times > 0; times--) {
                     call("back");
                 }
             }
