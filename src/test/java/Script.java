@@ -15,17 +15,27 @@ final class Script {
 
     /** Makes a new object and compares each call's answer with the one behind "=". */
     static void check(String name, String calls) {
+        made(name, calls);
+    }
+
+    /** A new object after the calls; an answer is compared where one is given. */
+    static ClockWires made(String name, String calls) {
         ClockWires object = new ClockWires();
         for (String step : calls.split(";")) {
             String line = step.strip().replaceAll("\\s+", " ");
             if (!line.isEmpty()) {
                 String[] sides = line.split("=");
-                due(name + ": " + sides[0].strip(), call(object, sides[0].strip()), number(sides[1].strip()));
+                String call = sides[0].strip();
+                long got = call(object, call);
+                if (sides.length > 1) {
+                    due(name + ": " + call, got, number(sides[1].strip()));
+                }
             }
         }
+        return object;
     }
 
-    private static long number(String text) {
+    static long number(String text) {
         BigDecimal value = new BigDecimal(text.replace("u", ""));
         for (int i = text.indexOf('u'); i >= 0 && i < text.length(); i++) {
             value = value.multiply(BigDecimal.valueOf(65536));
@@ -59,7 +69,7 @@ final class Script {
         return calls.append("shown(").append(n).append(", ").append(text.length()).append(") = -1; ").toString();
     }
 
-    private static long call(Object object, String text) {
+    static long call(Object object, String text) {
         int open = text.indexOf('(');
         String inside = text.substring(open + 1, text.length() - 1).strip();
         int[] arguments = inside.isEmpty()
