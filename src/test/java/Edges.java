@@ -12,6 +12,8 @@ final class Edges {
     static final int LOWEST = Integer.MIN_VALUE, HIGHEST = Integer.MAX_VALUE;
 
     static final String EMPTY = "";
+    /** No sinks, but a text and counts. */
+    static final String TEXT_ALONE = Script.typed("(0)") + "told(10) = -2; back() = -3; ";
     /** Two sinks that are tops, and three calls that can be undone. */
     static final String FEW = "sink(5, 5) = 0; sink(9, 1) = 1; skew(4) = 0; type(48) = 1; ";
     /** The sinks 0 to 4, the joints 8 and 10, the tops 2, 3 and 10; eight saved states; no value as at first. */
@@ -107,6 +109,16 @@ final class Edges {
             Script.due(name + ", then the saved states", object.told(9), kept + 1);
             Script.due(name + ", then back", object.back(), kept);
             same(name + ", then back and probe " + probe, probed(object, probe), untouched(setUp).get(probe));
+        }
+    }
+
+    /** The call succeeds and can be undone, but nothing is different after it. */
+    static void doneInVain(String sentence, String setUp, String call, String answer) {
+        done(sentence, setUp, call, answer);
+        for (int probe : new int[] {0, READ_TEXT}) {
+            ClockWires object = Script.made(sentence, setUp);
+            Script.call(object, call);
+            same(name(sentence, setUp, call) + ", in vain", probed(object, probe), untouched(setUp).get(probe));
         }
     }
 

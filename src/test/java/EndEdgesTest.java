@@ -97,6 +97,7 @@ public final class EndEdgesTest {
         Edges.refused("3: NO if another sink is at this point", Edges.BUSY, "moves(4, 10, 10)", Edges.NO);
         Edges.done("3: 0 if it is the same point", Edges.BUSY, "moves(0, 10, 10)", "0");
         Edges.done("3: 0 if it is the same point", Edges.BUSY, "moves(3, 22, 40)", "0");
+        Edges.doneInVain("3: 0 if it is the same point, touched last", Edges.BUSY, "moves(1, 14, 12)", "0");
         Edges.done("3: the source may be there", Edges.BUSY, "moves(0, 20, 33)", "33u");
         Script.check("3: to the same point, it is touched and saved all the same", Edges.FEW + """
             touched(0) = 1; moves(0, 5, 5) = 0; touched(0) = 0; told(9) = 4; back() = 3; touched(0) = 1
@@ -131,7 +132,7 @@ public final class EndEdgesTest {
         Edges.done("4: the lowest load", Edges.BUSY, "sets(1, 1, 1)", "4");
         Edges.done("4: the greatest load", Edges.BUSY, "sets(1, 1, 9)", "4");
         Edges.done("4: the same offset again", Edges.BUSY, "sets(0, 0, 7)", "7");
-        Edges.done("4: the same load again", Edges.BUSY, "sets(1, 1, 4)", "4");
+        Edges.doneInVain("4: the same load again", Edges.BUSY, "sets(1, 1, 4)", "4");
         Edges.done("4: an offset of 0 at first", Edges.BUSY, "sets(4, 0, 50)", "0");
         Edges.done("4: a load of 1 at first", Edges.BUSY, "sets(4, 1, 5)", "1");
         Script.check("4: the edges as they are read back", """
@@ -145,8 +146,8 @@ public final class EndEdgesTest {
         Edges.range("5: 0 to 99", Edges.BUSY, "skew(%)", 0, 99);
         Edges.done("5: the lowest", Edges.BUSY, "skew(0)", "5");
         Edges.done("5: the greatest", Edges.BUSY, "skew(99)", "5");
-        Edges.done("5: the same again", Edges.BUSY, "skew(5)", "5");
-        Edges.done("5: 0 at first", Edges.EMPTY, "skew(0)", "0");
+        Edges.doneInVain("5: the same again", Edges.BUSY, "skew(5)", "5");
+        Edges.doneInVain("5: 0 at first", Edges.EMPTY, "skew(0)", "0");
         Script.check("5: the edges as they are read back", "skew(99) = 0; told(5) = 99; skew(0) = 99; told(5) = 0");
     }
 
@@ -157,9 +158,9 @@ public final class EndEdgesTest {
         Edges.done("6: x, its greatest", Edges.BUSY, "source(63, 33)", "43u");
         Edges.done("6: y, its lowest", Edges.BUSY, "source(20, 0)", "33u");
         Edges.done("6: y, its greatest", Edges.BUSY, "source(20, 63)", "30u");
-        Edges.done("6: the same point", Edges.BUSY, "source(20, 33)", "0");
+        Edges.doneInVain("6: the same point", Edges.BUSY, "source(20, 33)", "0");
         Edges.done("6: a sink may be there", Edges.BUSY, "source(10, 10)", "33u");
-        Edges.done("6: (0, 0) at first", Edges.EMPTY, "source(0, 0)", "0");
+        Edges.doneInVain("6: (0, 0) at first", Edges.EMPTY, "source(0, 0)", "0");
         Edges.done("6: the greatest distance along U", Edges.EMPTY, "source(63, 63)", "126u");
         Edges.done("6: the greatest distance along V", "source(63, 0) = 63u; ", "source(0, 63)", "126u");
     }

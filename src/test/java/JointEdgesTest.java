@@ -73,9 +73,10 @@ public final class JointEdgesTest {
 
     private static void pairs() {
         Edges.refused("11: NO if there is no sink", Edges.EMPTY, "pairs()", Edges.NO);
+        Edges.refused("11: NO if there is no sink, but a text", Edges.TEXT_ALONE, "pairs()", Edges.NO);
         Edges.refused("11: NO if there is no sink any more", ONE + "back() = 0; ", "pairs()", Edges.NO);
-        Edges.done("11: one sink is one top", ONE, "pairs()", "0");
-        Edges.done("11: a whole tree has one top", Edges.WHOLE, "pairs()", "0");
+        Edges.doneInVain("11: one sink is one top", ONE, "pairs()", "0");
+        Edges.doneInVain("11: a whole tree has one top", Edges.WHOLE, "pairs()", "0");
         Edges.done("11: two tops", Edges.FEW, "pairs()", "1");
         Edges.done("11: three tops, and joints before", Edges.BUSY, "pairs()", "2");
         Edges.done("11: eight tops", EIGHT, "pairs()", "7");
@@ -88,8 +89,8 @@ public final class JointEdgesTest {
     }
 
     private static void frees() {
-        Edges.done("12: no joints, no sinks", Edges.EMPTY, "frees()", "0");
-        Edges.done("12: no joints", Edges.FEW, "frees()", "0");
+        Edges.doneInVain("12: no joints, no sinks", Edges.EMPTY, "frees()", "0");
+        Edges.doneInVain("12: no joints", Edges.FEW, "frees()", "0");
         Edges.done("12: some joints", Edges.BUSY, "frees()", "2");
         Edges.done("12: all joints", ALL_JOINTS, "frees()", "7");
         Script.check("12: all nodes are tops then", ALL_JOINTS + "frees() = 7; tops() = 8; told(4) = 0; node(14, 0) = -2; "
@@ -154,6 +155,8 @@ public final class JointEdgesTest {
         Edges.done("14: NONE, with the last joint that is free", LAST_FREE, "grafts(7, -1)", "14");
         Edges.done("14: NONE, the joint gets the lowest number", Edges.BUSY, "grafts(2, -1)", "9");
         Edges.done("14: NONE, for a joint", Edges.BUSY, "grafts(10, -1)", "9");
+        Script.check("14: NONE, the first of all nodes",
+            "sink(12, 0) = 0; sink(40, 0) = 1; sink(14, 0) = 2; joins(0, 1) = 8; grafts(2, -1) = 9; node(9, 0) = 0; node(8, 0) = 9");
         // 1 and 2 are as near to 3 as can be, 0 is far away.
         Script.check("14: of several nodes, the one with the lowest number",
             "sink(60, 60) = 0; sink(10, 0) = 1; sink(14, 0) = 2; sink(12, 0) = 3; grafts(3, -1) = 8; "
@@ -217,17 +220,23 @@ public final class JointEdgesTest {
 
     private static void betters() {
         String none = "16: 0 if there is no such exchange, and undone all the same";
-        Edges.done(none + ", no sink", Edges.EMPTY, "betters()", "0");
-        Edges.done(none + ", one sink", ONE, "betters()", "0");
-        Edges.done(none + ", no joint", Edges.CROWD + "frees() = 7; ", "betters()", "0");
-        Edges.done(none + ", children of one joint alone", Edges.FEW + "joins(0, 1) = 8; ", "betters()", "0");
+        Edges.doneInVain(none + ", no sink", Edges.EMPTY, "betters()", "0");
+        Edges.doneInVain(none + ", one sink", ONE, "betters()", "0");
+        Edges.doneInVain(none + ", no joint", Edges.CROWD + "frees() = 7; ", "betters()", "0");
+        Edges.doneInVain(none + ", children of one joint alone", Edges.FEW + "joins(0, 1) = 8; ", "betters()", "0");
         String sides = SQUARE + "joins(0, 1) = 8; joins(2, 3) = 9; joins(8, 9) = 10; ";
-        Edges.done("16: an exchange for the same cost is not carried out", sides, "betters()", "0");
+        Edges.doneInVain("16: an exchange for the same cost is not carried out", sides, "betters()", "0");
         Script.check("16: an exchange for the same cost is not carried out", sides + """
             exchanges(0, 3) = 0; exchanges(0, 3) = 0; betters() = 0; node(8, 0) = 0; node(8, 1) = 1; node(9, 0) = 2;
             node(9, 1) = 3
             """);
+        Edges.doneInVain(none + ", and less is not possible", ALL_JOINTS + "frees() = 7; pairs() = 7; ", "betters()", "0");
         Edges.done("16: the least cost of all", CHAIN, "betters()", "1u");
+        // 4 + 4 + 2 in all; by 0 and 3, or by 1 and 2, it is 2 + 2 + 4; by 0 and 1, it is 2 + 6 + 2.
+        Script.check("16: with the first of all nodes", LINE + """
+            joins(0, 2) = 8; joins(1, 3) = 9; joins(8, 9) = 10; betters() = 2u; node(8, 0) = 3; node(8, 1) = 2;
+            node(9, 0) = 1; node(9, 1) = 0
+            """);
         // Each of (1 2), (1 3), (2 4) and (3 4) makes sides of the diagonals; 0 is a top of its own.
         String diagonals = "sink(60, 60) = 0; sink(0, 0) = 1; sink(20, 0) = 2; sink(0, 20) = 3; sink(20, 20) = 4; "
             + "joins(1, 4) = 8; joins(2, 3) = 9; joins(8, 9) = 10; ";

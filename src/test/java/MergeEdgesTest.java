@@ -183,6 +183,8 @@ public final class MergeEdgesTest {
     private static void least() {
         Edges.range("21: what, 0 and 1", Edges.BUSY, "least(%)", 0, 1);
         Edges.refusedEach("21: NO if there is no sink", Edges.EMPTY, "least(%)", Edges.NO, 0, 1);
+        Edges.refusedEach("21: NO if there is no sink, but a text", Edges.TEXT_ALONE, "least(%)", Edges.NO, 0, 1);
+        Edges.refusedEach("21: NO if there are more than 6", Edges.CROWD, "least(%)", Edges.NO, 0, 1);
         Edges.refusedEach("21: NO if there is no sink any more", "sink(1, 1) = 0; back() = 0; ", "least(%)", Edges.NO, 0, 1);
         Edges.asked("21: one sink has one tree", "sink(7, 3) = 0; ", "least(1)", "1");
         Edges.asked("21: one sink has no wire", "sink(7, 3) = 0; ", "least(0)", "0");

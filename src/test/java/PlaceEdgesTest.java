@@ -146,6 +146,7 @@ public final class PlaceEdgesTest {
         Edges.asked("25: no trunk", "sink(0, 0) = 0; ", "total(1)", "0");
         Edges.asked("25: the longest trunk", "sink(63, 63) = 0; ", "total(1)", "126u");
         Edges.asked("25: arrivals as far apart as the skew", TWO + "sets(1, 0, 50) = 0; skew(20) = 0; ", "total(3)", "20u");
+        Edges.asked("25: arrivals, the first sink being the last", TWO + "sets(0, 0, 50) = 0; skew(20) = 0; ", "total(3)", "20u");
         Edges.asked("25: arrivals at one time", Edges.WHOLE, "total(3)", "0");
     }
 }

@@ -35,7 +35,7 @@ public final class UndoEdgesTest {
     private static void savedStates() {
         Edges.refused("30: NO if there is none", Edges.EMPTY, "back()", Edges.NO);
         Edges.refused("30: NO if there is none any more", "skew(1) = 0; back() = 0; ", "back()", Edges.NO);
-        Edges.refused("30: NO if there is none, with a text", "type(40) = 1; ", "back()", Edges.NO);
+        Edges.refused("30: NO if there is none, but a text", Edges.TEXT_ALONE, "back()", Edges.NO);
         for (int saves = 1; saves <= 10; saves++) {
             int kept = Math.min(saves, 8);
             StringBuilder calls = new StringBuilder(skews(saves)).append("told(9) = ").append(kept).append("; ");
