@@ -14,6 +14,7 @@ public final class PlaceEdgesTest {
         movedIntoRange();
         loops();
         loopCounts();
+        loopsOfASmallerTree();
         arrivals();
         delays();
         totals();
@@ -103,6 +104,17 @@ public final class PlaceEdgesTest {
             sets(3, 0, 60) = 0; joins(0, 1) = 8; joins(8, 2) = 9; joins(9, 3) = 10; total(2) = 57u; total(4) = 3;
             total(0) = 60u
             """);
+    }
+
+    /** The loops are 19 of 0, and 19, 18, 17 and 16 of 2 to 5, which all wait for 1. */
+    private static void loopsOfASmallerTree() {
+        String six = """
+            sink(0, 0) = 0; sink(1, 0) = 1; sink(2, 0) = 2; sink(3, 0) = 3; sink(4, 0) = 4; sink(5, 0) = 5; sets(1, 0, 20) = 0;
+            """;
+        String larger = "sink(6, 0) = 6; sink(7, 0) = 7; " + Script.typed("(((((((01)2)3)4)5)6)7)")
+            + "builds() = 7; total(4) = 7; back() = 7; back() = 6; back() = 5; clear() = 22; ";
+        Script.check("25: each loop counts once, also where a larger tree was undone", six + larger
+            + Script.typed("(((((01)2)3)4)5)") + "builds() = 5; total(2) = 89u; total(4) = 5; node(12, 10) = 100u");
     }
 
     private static void arrivals() {
