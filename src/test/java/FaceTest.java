@@ -5,7 +5,9 @@ import java.lang.reflect.Method;
 import java.lang.reflect.Modifier;
 import java.nio.file.Files;
 import java.nio.file.Path;
+import java.util.Map;
 import java.util.Set;
+import java.util.TreeMap;
 import java.util.TreeSet;
 import java.util.regex.Matcher;
 import java.util.regex.Pattern;
@@ -21,6 +23,10 @@ public final class FaceTest {
     private static final String[] FORBIDDEN = {"throw", "try", "catch", "finally", "synchronized", "assert", "import",
         "package", "protected", "\\w+Exact", "->", "::", "@\\w+", "native", "volatile", "goto", "new \\w+\\[[^]]*\\]\\[",
         "System\\.(?!arraycopy)", "String", "hashCode", "toString", "equals"};
+    // A head, and the lines up to the brace below its first letter.
+    private static final Pattern METHOD =
+        Pattern.compile("(?ms)^( {4}(?: {4})?)(?:\\w+(?:\\[\\])? )*(\\w+)\\([^)]*\\) \\{\n(.*?)^\\1\\}$");
+    private static final Pattern CALL = Pattern.compile("(\\w+)\\(");
     private static final Path SOURCE = Path.of("src/main/java/ClockWires.java");
 
     private static int wrong = 0;
@@ -53,7 +59,7 @@ public final class FaceTest {
                 methods.add(text);
             } else {
                 due(text + " is private", Modifier.isPrivate(method.getModifiers()) || method.isSynthetic());
-                due(text + " has a name of its own", METHODS.stream().noneMatch(m -> m.contains(" " + method.getName() + " ")));
+                ownName(method);
             }
         }
         due("the public methods are " + METHODS + " and not " + methods, methods.equals(METHODS));
@@ -67,6 +73,10 @@ public final class FaceTest {
             && Modifier.isPublic(constructors[0].getModifiers()) && constructors[0].getParameterCount() == 0);
     }
 
+    private static void ownName(Method method) {
+        due(method + " has a name of its own", METHODS.stream().noneMatch(m -> m.contains(" " + method.getName() + " ")));
+    }
+
     private static void classes() {
         Class<?>[] inside = ClockWires.class.getDeclaredClasses();
         due("at most twelve classes", inside.length < 12);
@@ -74,6 +84,9 @@ public final class FaceTest {
             due(type + " is static and not public", Modifier.isStatic(type.getModifiers())
                 && !Modifier.isPublic(type.getModifiers()) && !Modifier.isProtected(type.getModifiers()));
             checkMembers(type);
+            for (Method method : type.getDeclaredMethods()) {
+                ownName(method);
+            }
         }
         checkMembers(ClockWires.class);
     }
@@ -91,25 +104,52 @@ public final class FaceTest {
         }
     }
 
+    private static String withoutComments(String text) {
+        return text.replaceAll("(?s)/\\*.*?\\*/", "").replaceAll("//[^\n]*", "");
+    }
+
     private static void source(String text) {
-        String code = text.replaceAll("(?s)/\\*.*?\\*/", "").replaceAll("//[^\n]*", "");
+        String code = withoutComments(text);
         for (String word : FORBIDDEN) {
             Matcher found = Pattern.compile(word.matches("\\w+") ? "\\b" + word + "\\b" : word).matcher(code);
             due("the source does without " + word, !found.find());
         }
         due("the source has signs 1 to 127 alone", text.chars().allMatch(c -> c > 0 && c < 128));
-        methodLengths(text);
+        methods(text);
     }
 
-    private static void methodLengths(String text) {
-        String[] lines = text.split("\n");
-        int start = 0;
-        for (int i = 0; i < lines.length; i++) {
-            if (lines[i].matches(" {4}( {4})?\\w.*\\) \\{")) {
-                start = i;
-            } else if (lines[i].matches(" {4}( {4})?}")) {
-                due("at most sixty lines from line " + (start + 1), lines[start].contains("class") || i - start < 60);
+    // Methods are told apart by their names alone, so the depths found are never too small.
+    private static void methods(String text) {
+        Map<String, Set<String>> calls = new TreeMap<>();
+        Matcher found = METHOD.matcher(text);
+        while (found.find()) {
+            String body = withoutComments(found.group(3));
+            due(found.group(2) + " has at most sixty lines", found.group(3).lines().count() <= 60);
+            Set<String> names = calls.computeIfAbsent(found.group(2), name -> new TreeSet<>());
+            CALL.matcher(body).results().forEach(called -> names.add(called.group(1)));
+        }
+        due("the methods are found", calls.keySet().containsAll(Set.of("ClockWires", "digest", "growTrees", "addPart")));
+        for (String name : calls.keySet()) {
+            int depth = depth(name, calls, new TreeSet<>());
+            due(name + " calls at most eight deep, and not " + depth, depth <= 8);
+        }
+    }
+
+    // A method that calls itself counts once; one that comes back by way of others counts as endless.
+    private static int depth(String name, Map<String, Set<String>> calls, Set<String> open) {
+        if (!calls.containsKey(name)) {
+            return 0;
+        }
+        if (!open.add(name)) {
+            return 100;
+        }
+        int deepest = 0;
+        for (String called : calls.get(name)) {
+            if (!called.equals(name)) {
+                deepest = Math.max(deepest, depth(called, calls, open));
             }
         }
+        open.remove(name);
+        return deepest + 1;
     }
 }
